@@ -54,12 +54,9 @@ public final class DockGates {
         if (!isSlot(slot) || !isGate(gate)) {
             return failed(BAD);
         }
-        Thing thing = slots[slot];
+        Thing thing = broughtThrough(gate, slot);
         if (thing == null) {
-            return failed(NULL);
-        }
-        if (!letsThrough(gate, thing)) {
-            return failedAtGate(slot, gate);
+            return 0;
         }
         if (hasHole(thing)) {
             return failed(HOLE);
@@ -86,12 +83,9 @@ public final class DockGates {
         if (!isSlot(slot)) {
             return BAD;
         }
-        Thing row = slots[slot];
+        Thing row = rowOfNumbers(slot);
         if (row == null) {
-            return failed(NULL);
-        }
-        if (!holdsNumbers(row.kind)) {
-            return failedAtGate(slot, SHARES);
+            return 0;
         }
         if (i < 0 || i >= row.numbers.length) {
             return failed(OUTSIDE);
@@ -105,12 +99,9 @@ public final class DockGates {
         if (!isSlot(slot)) {
             return failed(BAD);
         }
-        Thing row = slots[slot];
+        Thing row = rowOfNumbers(slot);
         if (row == null) {
-            return failed(NULL);
-        }
-        if (!holdsNumbers(row.kind)) {
-            return failedAtGate(slot, SHARES);
+            return 0;
         }
         if (i < 0 || i >= row.numbers.length) {
             return failed(OUTSIDE);
@@ -123,14 +114,11 @@ public final class DockGates {
         if (!isSlot(to) || !isSlot(from)) {
             return BAD;
         }
-        Thing row = slots[to];
-        Thing laid = slots[from];
+        Thing row = rowOfThings(to);
         if (row == null) {
-            return failed(NULL);
+            return 0;
         }
-        if (!holdsThings(row.kind)) {
-            return failedAtGate(to, LOADS);
-        }
+        Thing laid = slots[from];
         int gate = gateOfLaying(row.kind);
         if (laid != null && !letsThrough(gate, laid)) {
             return failedAtGate(from, gate);
@@ -150,12 +138,9 @@ public final class DockGates {
         if (!isSlot(from) || !isSlot(to)) {
             return BAD;
         }
-        Thing row = slots[from];
+        Thing row = rowOfThings(from);
         if (row == null) {
-            return failed(NULL);
-        }
-        if (!holdsThings(row.kind)) {
-            return failedAtGate(from, LOADS);
+            return 0;
         }
         if (i < 0 || i >= row.parts.length) {
             return failed(OUTSIDE);
@@ -188,12 +173,9 @@ public final class DockGates {
         if (!isSlot(slot)) {
             return BAD;
         }
-        Thing tin = slots[slot];
+        Thing tin = broughtThrough(TIN, slot);
         if (tin == null) {
-            return failed(NULL);
-        }
-        if (!letsThrough(TIN, tin)) {
-            return failedAtGate(slot, TIN);
+            return 0;
         }
         int before = lidOf(tin);
         tin.shut = shut;
@@ -205,12 +187,9 @@ public final class DockGates {
         if (!isSlot(slot) || weight < 0 || weight > MOST_AMOUNT) {
             return BAD;
         }
-        Thing crate = slots[slot];
+        Thing crate = broughtThrough(CRATE, slot);
         if (crate == null) {
-            return failed(NULL);
-        }
-        if (!letsThrough(CRATE, crate)) {
-            return failedAtGate(slot, CRATE);
+            return 0;
         }
         int before = crate.amount;
         crate.amount = weight;
@@ -258,6 +237,32 @@ public final class DockGates {
 
     public int count() {
         return made;
+    }
+
+    /** What stands at a slot, if it fits a gate; else null, and its fault is NULL or TURNED. */
+    private Thing broughtThrough(int gate, int slot) {
+        Thing thing = slots[slot];
+        if (thing == null) {
+            failed(NULL);
+            return null;
+        }
+        if (!letsThrough(gate, thing)) {
+            failedAtGate(slot, gate);
+            return null;
+        }
+        return thing;
+    }
+
+    /** The row of numbers at a slot; else null, and its fault is NULL or TURNED. */
+    private Thing rowOfNumbers(int slot) {
+        Thing row = slots[slot];
+        return row != null && holdsNumbers(row.kind) ? row : broughtThrough(SHARES, slot);
+    }
+
+    /** The row of things at a slot; else null, and its fault is NULL or TURNED. */
+    private Thing rowOfThings(int slot) {
+        Thing row = slots[slot];
+        return row != null && holdsThings(row.kind) ? row : broughtThrough(LOADS, slot);
     }
 
     private int failed(int fault) {
@@ -451,14 +456,10 @@ public final class DockGates {
             case TIN:
                 return lidOf(load);
             case ANY_LOAD:
-                return weightOf(load);
+                return load.kind == BARREL ? 2 * load.amount : load.amount + lidOf(load);
             default:
                 return load.amount;
         }
-    }
-
-    private static int weightOf(Thing load) {
-        return load.kind == BARREL ? 2 * load.amount : load.amount + lidOf(load);
     }
 
     private static int lidOf(Thing load) {

@@ -52,7 +52,8 @@ public final class ModelTest {
         DockGates dock = new DockGates();
         for (int step = 1; step <= STEPS; step++) {
             String name = "run " + run + " step " + step;
-            step(dues, dock, name);
+            // Things come first, so that later calls seldom meet slots with nothing.
+            step(dues, dock, name, step < 20 ? 0 : below(17));
             dues.due(name + " fault()", dock.fault(), fault);
             if (step % STEPS_A_LOOK == 0) {
                 lookAtAll(dues, dock, name);
@@ -68,35 +69,52 @@ public final class ModelTest {
         }
     }
 
-    private void step(Dues dues, DockGates dock, String name) {
-        int a = slot(), b = slot(), i = below(10) == 0 ? below(12) - 2 : below(3), gate = gate();
+    private void step(Dues dues, DockGates dock, String name, int which) {
+        int a = slot(), b = slot(), i = below(10) == 0 ? below(12) - 2 : below(2), gate = gate();
         long v = number();
         fault = 0;
-        switch (below(15)) {
+        switch (which) {
             case 0, 1 -> {
                 int kind = below(40) == 0 ? below(16) - 2 : below(12);
-                int n = below(20) == 0 ? below(12) - 2 : kind > 8 && below(4) == 0 ? below(1000003) : below(4);
+                int n = below(20) == 0 ? below(12) - 2 : kind > 8 && below(4) == 0 ? below(1000003) : below(3);
                 dues.due(name + " make", dock.make(kind, n, a), make(kind, n, a));
             }
             case 2 -> dues.due(name + " fits", dock.fits(a, gate), bad(a, b(gate)) ? -2 : fits(slots[a], gate) ? 1 : 0);
             case 3, 4 -> {
-                gate = below(2) == 0 && a >= 0 && a < 12 ? someGateOf(slots[a]) : gate;
+                a = below(4) == 0 || b(gate) < 0 ? a : slotOf(GATES[gate]);
                 dues.due(name + " pass", dock.pass(a, gate), pass(a, gate));
             }
             case 5 -> {
                 int last = gate();
                 dues.due(name + " seek", dock.seek(a, gate, last), seek(a, gate, last));
             }
-            case 6 -> dues.due(name + " put", dock.put(a, i, v), put(a, i, v));
-            case 7 -> dues.due(name + " get", dock.get(a, i), get(a, i));
-            case 8, 9 -> dues.due(name + " lay", dock.lay(a, i, b), lay(a, i, b));
-            case 10 -> dues.due(name + " take", dock.take(a, i, b), take(a, i, b));
-            case 11 -> dues.due(name + " share", dock.share(a, b), bad(a, b) ? -2 : number(slots[b] = slots[a]));
+            case 6 -> {
+                a = below(4) == 0 ? a : slotOf(GATES[below(3)]);
+                dues.due(name + " put", dock.put(a, i, v), put(a, i, v));
+            }
+            case 7 -> {
+                a = below(4) == 0 ? a : slotOf(GATES[below(3)]);
+                dues.due(name + " get", dock.get(a, i), get(a, i));
+            }
+            case 8, 9, 10, 11 -> {
+                a = below(8) == 0 ? a : slotOf(GATES[3 + below(6)]);
+                b = below(4) == 0 ? b : slotOf(partOf(a));
+                dues.due(name + " lay", dock.lay(a, i, b), lay(a, i, b));
+            }
             case 12 -> {
-                boolean shut = below(3) != 0;
-                dues.due(name + " lid", dock.lid(a, shut), lid(a, shut));
+                a = below(4) == 0 ? a : slotOf(Object[].class);
+                dues.due(name + " take", dock.take(a, i, b), take(a, i, b));
             }
             case 13 -> {
+                a = below(4) == 0 ? a : slotOf(Object.class);
+                dues.due(name + " share", dock.share(a, b), bad(a, b) ? -2 : number(slots[b] = slots[a]));
+            }
+            case 14 -> {
+                boolean shut = below(3) != 0;
+                a = below(3) == 0 ? a : slotOf(Tin.class);
+                dues.due(name + " lid", dock.lid(a, shut), lid(a, shut));
+            }
+            case 15 -> {
                 int weight = below(9) == 0 ? below(3) - 2 : below(1000004);
                 dues.due(name + " weigh", dock.weigh(a, weight), weigh(a, weight));
             }
@@ -350,14 +368,20 @@ public final class ModelTest {
         return -1;
     }
 
-    private int someGateOf(Object thing) {
-        int start = below(13);
-        for (int k = 0; k < 13; k++) {
-            if (fits(thing, (start + k) % 13)) {
-                return (start + k) % 13;
+    /** A slot whose thing is of a type, or any if there is none. */
+    private int slotOf(Class<?> type) {
+        int start = below(12);
+        for (int k = 0; k < 12; k++) {
+            if (type.isInstance(slots[(start + k) % 12])) {
+                return (start + k) % 12;
             }
         }
         return start;
+    }
+
+    /** The type of what the row at a slot can hold. */
+    private Class<?> partOf(int slot) {
+        return !bad(slot, 0) && slots[slot] instanceof Object[] row ? row.getClass().getComponentType() : Load.class;
     }
 
     private int slot() {
