@@ -2,12 +2,22 @@
 final class Dues {
     static final int TURNED = 1, NULL = 2, OUTSIDE = 3, HOLE = 4, UNFIT = 5;
 
+    /** Slots that no dock has, at both edges and at the ends of int. */
+    static final int[] NO_SLOTS = {-1, 12, Integer.MIN_VALUE, Integer.MAX_VALUE};
+    static final int[] NO_GATES = {-1, 13, Integer.MIN_VALUE, Integer.MAX_VALUE};
+
     private int wrong = 0;
+    private String sentence = "";
+
+    /** The sentence of the document that the dues from here on are of. */
+    void of(String words) {
+        sentence = "'" + words + "': ";
+    }
 
     void due(String call, long got, long want) {
         if (got != want) {
             wrong++;
-            System.out.println(call + " answered " + got + ", due is " + want);
+            System.out.println(sentence + call + " answered " + got + ", due is " + want);
         }
     }
 

@@ -20,11 +20,12 @@ public final class FitsTest {
         Dues dues = new Dues();
         everyKindAtEveryGate(dues);
         nothingFitsNone(dues);
-        wrongArguments(dues);
+        wrongSlotsAndGates(dues);
         dues.end();
     }
 
     private static void everyKindAtEveryGate(Dues dues) {
+        dues.of("Whether what stands at a SLOT FITS a GATE: 1, 0");
         for (int kind = 0; kind < 12; kind++) {
             DockGates dock = new DockGates();
             dock.make(kind, 2, 11);
@@ -37,20 +38,31 @@ public final class FitsTest {
     }
 
     private static void nothingFitsNone(Dues dues) {
-        DockGates dock = new DockGates();
-        for (int gate = 0; gate < 13; gate++) {
-            dues.fine(dock, "nothing at gate " + gate, dock.fits(0, gate), 0);
+        dues.of("fits: NOTHING FITS none");
+        for (int slot = 0; slot < 12; slot++) {
+            DockGates dock = new DockGates();
+            for (int gate = 0; gate < 13; gate++) {
+                dock.get(-1, 0);
+                dues.fine(dock, "nothing at gate " + gate, dock.fits(slot, gate), 0);
+            }
+            dues.told(dock, "after fits of nothing", 0, DockGates.NONE, DockGates.NONE);
         }
-        dues.told(dock, "after fits of nothing", 0, DockGates.NONE, DockGates.NONE);
     }
 
-    private static void wrongArguments(Dues dues) {
-        DockGates dock = new DockGates();
-        dock.make(0, 0, 0);
-        int[][] wrong = {{-1, 0}, {12, 0}, {0, -1}, {0, 13}, {Integer.MIN_VALUE, 0}, {0, Integer.MAX_VALUE}};
-        for (int[] call : wrong) {
-            dock.size(5);
-            dues.fine(dock, "fits(" + call[0] + ", " + call[1] + ")", dock.fits(call[0], call[1]), DockGates.BAD);
+    private static void wrongSlotsAndGates(Dues dues) {
+        dues.of("fits: BAD");
+        DockGates dock = Stock.ofAllKinds();
+        for (int slot : Dues.NO_SLOTS) {
+            for (int gate = -1; gate <= 13; gate++) {
+                dock.size(9);
+                dues.fine(dock, "fits(" + slot + ", " + gate + ")", dock.fits(slot, gate), DockGates.BAD);
+            }
+        }
+        for (int gate : Dues.NO_GATES) {
+            for (int slot = 0; slot < 12; slot++) {
+                dock.size(9);
+                dues.fine(dock, "fits(" + slot + ", " + gate + ")", dock.fits(slot, gate), DockGates.BAD);
+            }
         }
     }
 }

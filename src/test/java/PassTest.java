@@ -14,6 +14,7 @@ public final class PassTest {
     }
 
     private static void rowsOfNumbers(Dues dues) {
+        dues.of("pass: 0 COUNTS, 1 MARKS, 2 SHARES the sum");
         DockGates dock = new DockGates();
         dock.make(0, 3, 0);
         dock.put(0, 0, Integer.MAX_VALUE);
@@ -36,6 +37,7 @@ public final class PassTest {
     }
 
     private static void grid(Dues dues) {
+        dues.of("pass: 3 GRID the sum of all of its rows");
         DockGates dock = new DockGates();
         dock.make(3, 3, 0);
         dock.make(0, 2, 1);
@@ -56,6 +58,7 @@ public final class PassTest {
     }
 
     private static void singleLoads(Dues dues) {
+        dues.of("pass: 9 CRATE, 10 TIN, 11 BARREL, 12 LOAD");
         DockGates dock = new DockGates();
         dock.make(9, 50, 0);
         dock.make(10, 60, 1);
@@ -74,6 +77,7 @@ public final class PassTest {
     }
 
     private static void rowsOfLoads(Dues dues) {
+        dues.of("pass: 4 CRATES, 5 TINS, 6 LOADS");
         DockGates dock = new DockGates();
         dock.make(9, 5, 0);
         dock.make(10, 7, 1);
@@ -108,6 +112,7 @@ public final class PassTest {
     }
 
     private static void stacks(Dues dues) {
+        dues.of("pass: 7 STACK, 8 TIN STACK");
         DockGates dock = new DockGates();
         dock.make(10, 9, 0);
         dock.lid(0, true);
@@ -138,6 +143,7 @@ public final class PassTest {
     }
 
     private static void emptyRows(Dues dues) {
+        dues.of("pass: rows of no PLACE");
         DockGates dock = new DockGates();
         for (int kind = 0; kind < 9; kind++) {
             dock.make(kind, 0, 0);
@@ -146,6 +152,7 @@ public final class PassTest {
     }
 
     private static void everyKindIsTurnedWhereItDoesNotFit(Dues dues) {
+        dues.of("pass: TURNED");
         for (int kind = 0; kind < 12; kind++) {
             DockGates dock = new DockGates();
             // A row of holes shows that TURNED is met ahead of HOLE.
@@ -161,6 +168,7 @@ public final class PassTest {
     }
 
     private static void wrongArguments(Dues dues) {
+        dues.of("pass: NULL; 0 of BAD, which fault() tells as BAD");
         DockGates dock = new DockGates();
         dues.fault(dock, "nothing at 3", dock.pass(0, 3), Dues.NULL);
         dues.told(dock, "after NULL", 0, DockGates.NONE, DockGates.NONE);

@@ -1,36 +1,66 @@
 /** Promises 6 and 7: put and get. */
 public final class PutGetTest {
+    private static final int NONE = DockGates.NONE, BAD = DockGates.BAD;
+
     public static void main(String[] args) {
         Dues dues = new Dues();
-        lowestBitsAreKept(dues);
+        lowest32Bits(dues);
+        lowest8Bits(dues);
+        all64Bits(dues);
         placesAreApart(dues);
-        outside(dues);
+        nothingIsNull(dues);
         otherKindsAreTurned(dues);
-        wrongArguments(dues);
+        turnedOnceByGateTwo(dues);
+        outside(dues);
+        wrongSlots(dues);
         dues.end();
     }
 
-    private static void lowestBitsAreKept(Dues dues) {
-        DockGates dock = new DockGates();
-        dock.make(0, 1, 0);
-        dock.make(1, 1, 1);
-        dock.make(2, 1, 2);
-        long[] values = {0, 1, -1, 127, 128, 255, 256, -129, 1L << 31, (1L << 32) + 5, Long.MIN_VALUE,
-            Long.MAX_VALUE, 0x123456789abcdef0L};
-        for (long v : values) {
-            for (int slot = 0; slot < 3; slot++) {
-                dues.fine(dock, "put(" + slot + ", 0, " + v + ")", dock.put(slot, 0, v), 1);
+    private static void lowest32Bits(Dues dues) {
+        dues.of("PLACE i of COUNTS becomes v (its lowest 32 bits): 1");
+        long two31 = 1L << 31, two32 = 1L << 32;
+        long[][] putAndGot = {{0, 0}, {1, 1}, {-1, -1}, {two31 - 1, two31 - 1}, {two31, -two31}, {-two31, -two31},
+            {-two31 - 1, two31 - 1}, {two32 - 1, -1}, {two32, 0}, {two32 + 5, 5}, {255, 255}, {-129, -129},
+            {Long.MAX_VALUE, -1}, {Long.MIN_VALUE, 0}, {0x123456789abcdef0L, 0xffffffff9abcdef0L}};
+        putAndGet(dues, 0, putAndGot);
+    }
+
+    private static void lowest8Bits(Dues dues) {
+        dues.of("PLACE i of MARKS becomes v (its lowest 8 bits): 1");
+        long[][] putAndGot = {{0, 0}, {1, 1}, {-1, -1}, {127, 127}, {128, -128}, {-128, -128}, {-129, 127},
+            {255, -1}, {256, 0}, {257, 1}, {-256, 0}, {1L << 32, 0}, {(1L << 32) + 200, -56},
+            {Long.MAX_VALUE, -1}, {Long.MIN_VALUE, 0}, {0x123456789abcdef0L, -16}};
+        putAndGet(dues, 1, putAndGot);
+    }
+
+    private static void all64Bits(Dues dues) {
+        dues.of("PLACE i of SHARES becomes v (its lowest 64 bits): 1");
+        long[] values = {0, 1, -1, 255, 1L << 31, -(1L << 31) - 1, 1L << 32, (1L << 32) + 5, Long.MAX_VALUE,
+            Long.MIN_VALUE, 0x123456789abcdef0L};
+        long[][] putAndGot = new long[values.length][];
+        for (int k = 0; k < values.length; k++) {
+            putAndGot[k] = new long[] {values[k], values[k]};
+        }
+        putAndGet(dues, 2, putAndGot);
+    }
+
+    private static void putAndGet(Dues dues, int kind, long[][] putAndGot) {
+        for (int i = 0; i < 8; i += 7) {
+            DockGates dock = Stock.ofOne(kind, 8);
+            for (long[] pair : putAndGot) {
+                dock.size(5);
+                dues.fine(dock, "put of " + pair[0] + " at " + i, dock.put(0, i, pair[0]), 1);
+                dock.size(5);
+                dues.fine(dock, "get of " + pair[0] + " at " + i, dock.get(0, i), pair[1]);
+                dues.due("pass of " + pair[0] + " at " + i, dock.pass(0, kind), pair[1]);
             }
-            dues.fine(dock, "counts of " + v, dock.get(0, 0), (int) v);
-            dues.fine(dock, "marks of " + v, dock.get(1, 0), (byte) v);
-            dues.fine(dock, "shares of " + v, dock.get(2, 0), v);
         }
     }
 
     private static void placesAreApart(Dues dues) {
+        dues.of("get: PLACE i of such a row");
         for (int kind = 0; kind < 3; kind++) {
-            DockGates dock = new DockGates();
-            dock.make(kind, 8, 0);
+            DockGates dock = Stock.ofOne(kind, 8);
             dock.share(0, 1);
             for (int i = 0; i < 8; i++) {
                 dues.fine(dock, "number at first", dock.get(0, i), 0);
@@ -42,26 +72,20 @@ public final class PutGetTest {
         }
     }
 
-    private static void outside(Dues dues) {
-        for (int kind = 0; kind < 3; kind++) {
-            DockGates dock = new DockGates();
-            dock.make(kind, 2, 0);
-            dock.make(kind, 0, 1);
-            dock.put(0, 1, 6);
-            int[] places = {-1, 2, 8, Integer.MIN_VALUE, Integer.MAX_VALUE};
-            for (int i : places) {
-                dues.fault(dock, "put at " + i, dock.put(0, i, 9), Dues.OUTSIDE);
-                dues.fault(dock, "get at " + i, dock.get(0, i), Dues.OUTSIDE);
-            }
-            dues.fault(dock, "put at a row of none", dock.put(1, 0, 9), Dues.OUTSIDE);
-            dues.fault(dock, "get at a row of none", dock.get(1, 0), Dues.OUTSIDE);
-            dues.fine(dock, "what was put before", dock.get(0, 1), 6);
-            dues.due("sum", dock.pass(0, kind), 6);
-            dues.told(dock, "after OUTSIDE", 0, DockGates.NONE, DockGates.NONE);
+    private static void nothingIsNull(Dues dues) {
+        dues.of("put, get: NULL");
+        DockGates dock = new DockGates();
+        int[] places = {-1, 0, 7, 8};
+        for (int i : places) {
+            dues.fault(dock, "put at place " + i + " of nothing", dock.put(0, i, 1), Dues.NULL);
+            dock.fits(0, 0);
+            dues.fault(dock, "get of place " + i + " of nothing", dock.get(11, i), Dues.NULL);
         }
+        dues.told(dock, "after NULL", 0, NONE, NONE);
     }
 
     private static void otherKindsAreTurned(Dues dues) {
+        dues.of("put, get: TURNED (by GATE 2)");
         for (int kind = 3; kind < 12; kind++) {
             DockGates dock = new DockGates();
             dock.make(kind, 1, kind);
@@ -73,13 +97,44 @@ public final class PutGetTest {
         }
     }
 
-    private static void wrongArguments(Dues dues) {
-        DockGates dock = new DockGates();
-        dues.fault(dock, "put at nothing", dock.put(0, 0, 1), Dues.NULL);
-        dues.fault(dock, "get at nothing", dock.get(0, -1), Dues.NULL);
-        dues.fine(dock, "put at slot -1", dock.put(-1, 0, 1), DockGates.BAD);
-        dues.fine(dock, "put at slot 12", dock.put(12, 0, 1), DockGates.BAD);
-        dues.fault(dock, "get at slot -1", dock.get(-1, 0), DockGates.BAD);
-        dues.fault(dock, "get at slot 12", dock.get(12, 0), DockGates.BAD);
+    private static void turnedOnceByGateTwo(Dues dues) {
+        dues.of("put, get: TURNED by the last of the three that is tried: what FITS one of them is not TURNED");
+        for (int kind = 0; kind < 3; kind++) {
+            DockGates dock = Stock.ofOne(kind, 1);
+            dock.put(0, 0, 1);
+            dock.get(0, 0);
+            dues.told(dock, "after put and get at kind " + kind, 0, NONE, NONE);
+        }
+    }
+
+    private static void outside(Dues dues) {
+        dues.of("put, get: OUTSIDE");
+        for (int kind = 0; kind < 3; kind++) {
+            for (int n = 0; n <= 8; n++) {
+                DockGates dock = Stock.ofOne(kind, n);
+                Stock.putAll(dock, 0, n, 6);
+                int[] places = {-1, n, n + 1, 8, Integer.MIN_VALUE, Integer.MAX_VALUE};
+                for (int i : places) {
+                    dues.fault(dock, "put at " + i + " of " + n, dock.put(0, i, 9), Dues.OUTSIDE);
+                    dock.fits(0, 0);
+                    dues.fault(dock, "get at " + i + " of " + n, dock.get(0, i), Dues.OUTSIDE);
+                }
+                dues.fine(dock, "sum of what was put before", dock.pass(0, kind), 6 * n);
+                dues.told(dock, "after OUTSIDE", 0, NONE, NONE);
+            }
+        }
+    }
+
+    private static void wrongSlots(Dues dues) {
+        DockGates dock = Stock.ofAllKinds();
+        for (int slot : Dues.NO_SLOTS) {
+            dues.of("put: BAD");
+            dock.size(9);
+            dues.fine(dock, "put at slot " + slot, dock.put(slot, 0, 1), BAD);
+            dues.fine(dock, "put at no place of slot " + slot, dock.put(slot, -1, 1), BAD);
+            dues.of("get: 0 of BAD, which fault() tells");
+            dues.fault(dock, "get at slot " + slot, dock.get(slot, 0), BAD);
+            dues.fault(dock, "get at no place of slot " + slot, dock.get(slot, -1), BAD);
+        }
     }
 }
